@@ -128,16 +128,11 @@ public final class RoomTest {
             "shtcp", "abcdef", "",
         };
         for (int place = 0; place < due.length; place++) {
-            EndedByOthers x = Check.typed(LONGEST.substring(0, place));
             for (int code = 1; code <= 126; code++) {
+                EndedByOthers x = Check.typed(LONGEST.substring(0, place));
                 x.letter(code);
                 boolean mayStand = due[place].indexOf(code) >= 0;
                 check.due("fault of code " + code + " at " + place, mayStand ? place + 1 : place, x.fault());
-                x.blank();
-                if (code % 60 == 0) {
-                    x = new EndedByOthers();
-                }
-                Check.type(x, LONGEST.substring(0, place));
             }
         }
     }

@@ -23,7 +23,7 @@ public final class ImageTest {
     }
 
     private static void keepsAll() {
-        EndedByOthers x = Check.inRoom("abc,abc,abc,abc;pa,pb,hf");
+        EndedByOthers x = Check.inRoom("abc,abc,abc,f;pa,pb,hf");
         x.begin(0, 0);
         x.end(0, 1);
         x.begin(1, 2);
@@ -40,7 +40,9 @@ public final class ImageTest {
         x.want(2, 0);
         x.hear(2, 0, 0);
         x.forget();
-        x.hear(1, 1, 1);
+        x.hear(1, 3, 5);
+        x.hear(2, 1, 1);
+        x.hear(0, 2, 2);
         check.due("restore()", 2, x.restore());
         check.due("digest() behind restore()", before, x.digest());
         check.due("WANTED by 0", 3, x.about(0, 1));
